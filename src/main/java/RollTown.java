@@ -1251,16 +1251,20 @@ public final class RollTown {
         private static final int NUMBER = 2;
         private static final int SIGN = 3;
         private static final int OTHER = 4;
+        private static final int BLANK = 5;
         /** Above every number that may stand in a text. */
         private static final int TOO_MUCH = 1000;
 
         final int[] bytes = new int[TAPE];
         int size = 0;
-        /** The token in hand: its first byte, the byte behind it, its type, its value if it is a number. */
-        private int begin = 0;
-        private int after = 0;
-        private int type = END;
-        private int value = 0;
+        /** Of each token its first byte, the byte behind it, its type, its value if it is a number. */
+        private final int[] begins = new int[TAPE + 1];
+        private final int[] ends = new int[TAPE + 1];
+        private final int[] types = new int[TAPE + 1];
+        private final int[] values = new int[TAPE + 1];
+        private int tokens = 0;
+        /** The token in hand. */
+        private int at = 0;
         /** The numbers read last. */
         private int number = 0;
         private int from = 0;
@@ -1275,20 +1279,68 @@ public final class RollTown {
 
         /** How many items there were, or -1 less the FAULT. */
         int readText(Town town) {
-            after = 0;
-            nextToken();
+            splitTape();
+            at = 0;
             for (int items = 1; items <= TAPE; items++) {
                 if (!readItem(town)) {
-                    return -1 - begin;
+                    return -1 - begins[at];
                 }
-                if (type == END) {
+                if (types[at] == END) {
                     return items;
                 }
                 if (!takeSign(';')) {
-                    return -1 - begin;
+                    return -1 - begins[at];
                 }
             }
-            return -1 - begin;
+            return -1 - begins[at];
+        }
+
+        /** The token behind the last one is the END: it begins where the tape ends. */
+        private void splitTape() {
+            tokens = 0;
+            int before = BLANK;
+            for (int i = 0; i < size; i++) {
+                int type = typeOf(bytes[i]);
+                boolean goesOn = type == before && (type == WORD || type == NUMBER);
+                if (type != BLANK && !goesOn) {
+                    beginToken(i, type);
+                }
+                if (type != BLANK && tokens > 0) {
+                    growToken(tokens - 1, i);
+                }
+                before = type;
+            }
+            beginToken(size, END);
+        }
+
+        private void beginToken(int place, int type) {
+            if (tokens <= TAPE) {
+                begins[tokens] = place;
+                ends[tokens] = place;
+                types[tokens] = type;
+                values[tokens] = 0;
+                tokens++;
+            }
+        }
+
+        private void growToken(int token, int place) {
+            ends[token] = place + 1;
+            if (types[token] == NUMBER) {
+                values[token] = Math.min(TOO_MUCH, values[token] * 10 + bytes[place] - '0');
+            }
+        }
+
+        private static int typeOf(int b) {
+            if (within(b, 'a', 'z')) {
+                return WORD;
+            }
+            if (within(b, '0', '9')) {
+                return NUMBER;
+            }
+            if (b == ' ') {
+                return BLANK;
+            }
+            return b == ';' || b == '-' ? SIGN : OTHER;
         }
 
         private boolean readItem(Town town) {
@@ -1346,7 +1398,7 @@ public final class RollTown {
         }
 
         private boolean readThing(Town town, int kind) {
-            nextToken();
+            goOn();
             town.addThing(kind, 10);
             Thing t = town.things[town.size - 1];
             if (takeWord("weight")) {
@@ -1389,17 +1441,17 @@ public final class RollTown {
         private boolean takeWord(String word) {
             boolean isIt = isWord(word);
             if (isIt) {
-                nextToken();
+                goOn();
             }
             return isIt;
         }
 
         private boolean isWord(String word) {
-            if (type != WORD || after - begin != word.length()) {
+            if (types[at] != WORD || ends[at] - begins[at] != word.length()) {
                 return false;
             }
             for (int i = 0; i < word.length(); i++) {
-                if (bytes[begin + i] != word.charAt(i)) {
+                if (bytes[begins[at] + i] != word.charAt(i)) {
                     return false;
                 }
             }
@@ -1407,62 +1459,26 @@ public final class RollTown {
         }
 
         private boolean takeNumber(int low, int high) {
-            if (type != NUMBER || !within(value, low, high)) {
+            if (types[at] != NUMBER || !within(values[at], low, high)) {
                 return false;
             }
-            number = value;
-            nextToken();
+            number = values[at];
+            goOn();
             return true;
         }
 
         private boolean takeSign(char sign) {
-            boolean isIt = type == SIGN && bytes[begin] == sign;
+            boolean isIt = types[at] == SIGN && bytes[begins[at]] == sign;
             if (isIt) {
-                nextToken();
+                goOn();
             }
             return isIt;
         }
 
-        private void nextToken() {
-            begin = after;
-            while (begin < size && bytes[begin] == ' ') {
-                begin++;
+        private void goOn() {
+            if (at < tokens - 1) {
+                at++;
             }
-            after = begin;
-            if (begin >= size) {
-                type = END;
-            } else if (isLetter(bytes[begin])) {
-                nextWord();
-            } else if (isDigit(bytes[begin])) {
-                nextNumber();
-            } else {
-                type = bytes[begin] == ';' || bytes[begin] == '-' ? SIGN : OTHER;
-                after = begin + 1;
-            }
-        }
-
-        private void nextWord() {
-            type = WORD;
-            while (after < size && isLetter(bytes[after])) {
-                after++;
-            }
-        }
-
-        private void nextNumber() {
-            type = NUMBER;
-            value = 0;
-            while (after < size && isDigit(bytes[after])) {
-                value = Math.min(TOO_MUCH, value * 10 + bytes[after] - '0');
-                after++;
-            }
-        }
-
-        private static boolean isLetter(int b) {
-            return within(b, 'a', 'z');
-        }
-
-        private static boolean isDigit(int b) {
-            return within(b, '0', '9');
         }
 
         private static String nameOfGround(int soil) {

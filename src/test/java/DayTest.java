@@ -95,6 +95,10 @@ public final class DayTest {
         x.put(3, 1);
         x.go(3);
         due.is("26: nobody else is there", x.behind(0, 1), 2);
+        due.is("26: nobody else, the other way round", x.behind(1, 0), 1);
+        x.put(2, 0);
+        x.put(0, 5);
+        due.is("26: nor the first of all", x.behind(2, 1), 2);
         x.put(2, 2);
         x.put(0, 2);
         due.is("26: from another CELL than 0", x.behind(0, 2), 1);
@@ -107,6 +111,10 @@ public final class DayTest {
         x.gate(0, 17);
         x.gate(1, 40);
         due.is("26: the other one when it is open again", x.behind(0, 1), 25);
+        x.gate(1, 14);
+        due.is("26: as late as can be", x.behind(0, 1), 59);
+        x.gate(1, 15);
+        due.is("26: too late", x.behind(0, 1), Due.NONE);
     }
 
     private static void behindNever(Due due) {

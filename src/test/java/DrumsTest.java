@@ -56,6 +56,8 @@ public final class DrumsTest {
         due.is("30: drums(63, 4)", x.drums(63, 4), 6);
         due.is("30: drums(63, 3)", x.drums(63, 3), Due.NONE);
         due.is("30: drums(60, 3)", x.drums(60, 3), 4);
+        due.is("30: drums(1, 3)", x.drums(1, 3), Due.NONE);
+        due.is("30: drums(1, 4)", x.drums(1, 4), 1);
         due.is("30: drums(33, 999)", x.drums(33, 999), 1);
         RollTown y = with(99, 99, 99, 99, 99, 99, 99, 99, 99, 99);
         due.is("30: drums(1023, 99)", y.drums(1023, 99), 10);

@@ -3,6 +3,8 @@ public final class ImagesTest {
     public static void main(String[] args) {
         Due due = new Due("Images");
         imageAndUndo(due);
+        damageIsKept(due);
+        numbersAreGivenAgain(due);
         whatIsNotKept(due);
         spotsAreKept(due);
         tear(due);
@@ -52,6 +54,46 @@ public final class ImagesTest {
         x.minutes(2);
         due.is("49: what was kept latest", x.undo(), 3);
         due.is("49: with its thing", x.count(1), 3);
+    }
+
+    private static void damageIsKept(Due due) {
+        RollTown x = new RollTown();
+        x.thing(0, 10);
+        x.thing(0, 10);
+        x.put(1, 1);
+        x.image();
+        x.go(0);
+        x.minutes(1);
+        due.is("48: damage", x.count(2), 2);
+        x.undo();
+        due.is("49: damage is undone", x.count(2), 0);
+        x.go(0);
+        x.minutes(1);
+        x.image();
+        x.undo();
+        due.is("49: damage is kept", x.of(1, 7), 1);
+    }
+
+    private static void numbersAreGivenAgain(Due due) {
+        RollTown x = new RollTown();
+        x.image();
+        x.thing(3, 50);
+        x.thing(3, 50);
+        for (int what = 1; what < 4; what++) {
+            x.change(0, what, 7);
+        }
+        x.put(1, 1);
+        x.go(0);
+        x.minutes(1);
+        x.put(0, 2);
+        x.go(0);
+        x.undo();
+        due.is("49: none is there", x.count(1), 0);
+        due.is("49: a thing anew", x.thing(2, 20), 0);
+        int[] want = {2, 20, 4, 0, 0, 0, 0, 0, 40};
+        for (int what = 0; what < 9; what++) {
+            due.is("49: of(0, " + what + ")", x.of(0, what), want[what]);
+        }
     }
 
     private static void whatIsNotKept(Due due) {

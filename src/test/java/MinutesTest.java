@@ -113,6 +113,7 @@ public final class MinutesTest {
         due.is("12: where", x.of(0, 4), 13);
         due.is("12: with what SPEED", x.of(0, 5), 46);
         due.is("12: state", x.of(0, 6), 2);
+        due.is("12: one OUT comes OUT once", x.minutes(3), 0);
         x.put(0, 13);
         x.fall(13, 9);
         x.change(0, 2, 9);

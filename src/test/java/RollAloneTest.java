@@ -35,6 +35,7 @@ public final class RollAloneTest {
         RollTown x = with(2);
         x.put(1, 12);
         String before = Due.view(x);
+        due.is("18: takes(0), asked first", x.takes(0), 9);
         due.is("17: ends(0), no other one being there", x.ends(0), 30);
         due.is("18: takes(0)", x.takes(0), 9);
         due.is("19: speed(0), less than in its last MINUTE", x.speed(0), 58);
@@ -45,10 +46,14 @@ public final class RollAloneTest {
         x.kindFor(0);
         due.same("17 to 24: what they leave", Due.view(x), before);
         x.put(0, 29);
-        due.is("17: from 29", x.ends(0), 30);
-        due.is("18: from 29", x.takes(0), 1);
         due.is("19: as it is LET GO", x.speed(0), 10);
+        x.ends(1);
         due.is("20: from 29", x.seen(0), set(29, 30));
+        x.ends(1);
+        due.is("18: from 29", x.takes(0), 1);
+        due.is("17: from 29", x.ends(0), 30);
+        x.ends(1);
+        due.is("19: from 29", x.speed(0), 10);
         x.ground(3, 4);
         x.put(0, 0);
         due.is("17: a gate that is SHUT", x.ends(0), 2);
@@ -162,6 +167,10 @@ public final class RollAloneTest {
         due.is("22: out of sand", x.rollsFor(0), 6);
         x.fall(0, 1);
         due.is("22: never", x.rollsFor(0), Due.NONE);
+        x.change(0, 0, 3);
+        x.change(0, 1, 19);
+        due.is("22: a ROCK with all ROLLS", x.rollsFor(0), 9);
+        x.change(0, 0, 0);
         x.ground(0, 0);
         x.ground(29, 3);
         x.change(0, 2, 9);

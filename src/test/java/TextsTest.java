@@ -74,6 +74,8 @@ public final class TextsTest {
         due.is("40: last", x.gate(1, 0), 3);
         due.is("40: shut 0 to 0", Due.text(x, "shut 0 to 0;shut 5 to 5"), 2);
         due.is("40: first", x.gate(0, 0), 5);
+        due.is("40: shut 59 to 59", Due.text(x, "shut 59 to 59"), 1);
+        due.is("40: last", x.gate(1, 0), 59);
     }
 
     private static void things(Due due) {
@@ -103,6 +105,13 @@ public final class TextsTest {
         due.is("40: naughts ahead", Due.text(x, "sand 0000000009;fall 007 by 0003"), 2);
         due.is("40: ground of 9", x.ground(9, 0), 1);
         due.is("40: fall of 7", x.fall(7, 0), 3);
+        due.is("40: a longer text", Due.text(x, "sand 15"), 1);
+        due.is("40: a shorter one behind it", Due.text(x, "sand 1"), 1);
+        due.is("40: ground of 1", x.ground(1, 0), 1);
+        due.is("40: a longer one with a fault", Due.text(x, "boxes"), -1);
+        due.is("40: a shorter one without", Due.text(x, "box"), 1);
+        due.is("40: a longer one with blanks", Due.text(x, "ring    "), 1);
+        due.is("40: a shorter one that ends too early", Due.text(x, "sand"), -1 - 4);
     }
 
     /** Each text with the place of its fault. */
@@ -136,6 +145,10 @@ public final class TextsTest {
         fault(due, "sand 3 " + (char) 200, 7);
         fault(due, "sands 3", 0);
         fault(due, "san 3", 0);
+        fault(due, "hand 3", 0);
+        fault(due, "sane 3", 0);
+        fault(due, "ting", 0);
+        fault(due, "wing", 0);
         fault(due, "sandto 3", 0);
         fault(due, "roll 3", 0);
         fault(due, "3", 0);

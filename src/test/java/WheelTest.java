@@ -110,6 +110,11 @@ public final class WheelTest {
         due.is("35: cell", x.of(0, 4), 0);
         due.is("35: minute", x.count(0), 0);
         due.is("35: nobody met", x.count(2), 0);
+        x.change(0, 0, 6);
+        x.fall(0, -9);
+        due.is("35: one that stays on CELL 0 isn't OUT", x.odds(0, 20), 0);
+        x.change(0, 0, 0);
+        x.fall(0, 3);
         x.ground(1, 0);
         due.is("35: no BEND", x.odds(0, 20), 0);
     }
@@ -143,6 +148,14 @@ public final class WheelTest {
         x.go(0);
         x.minutes(1);
         due.is("36: the most", x.worst(), 2);
+        x.put(2, 30);
+        x.go(1);
+        x.minutes(1);
+        x.put(1, 30);
+        x.thing(0, 10);
+        x.go(3);
+        x.minutes(1);
+        due.is("36: number 0", x.worst(), 0);
         due.is("36: status(3)", x.status(3), 2);
     }
 
