@@ -1195,26 +1195,30 @@ public final class RollTown {
         private static final int PER_DRUM = 1000;
         private final int[] row = new int[SETS];
 
-        /** Leaves the weight of each part of the set in the row. */
         int leftSide(Town town, int set) {
+            weighAllSets(town);
             int least = set & -set;
             int best = set;
-            row[0] = 0;
-            for (int left = 1; left <= set && left < SETS; left++) {
-                if ((left & ~set) != 0) {
-                    continue;
-                }
-                row[left] = row[left & left - 1] + town.things[Integer.numberOfTrailingZeros(left)].weight;
-            }
             for (int left = set; left >= least; left--) {
-                if ((left & ~set) == 0 && (left & least) != 0 && difference(set, left) <= difference(set, best)) {
+                boolean isPart = (left & ~set) == 0 && (left & least) != 0;
+                if (isPart && difference(set, left) <= difference(set, best)) {
                     best = left;
                 }
             }
             return best;
         }
 
-        /** To be asked behind leftSide of the same set. */
+        private void weighAllSets(Town town) {
+            row[0] = 0;
+            for (int i = 0; i < town.size; i++) {
+                int bit = 1 << i;
+                for (int lower = 0; lower < bit; lower++) {
+                    row[bit | lower] = row[lower] + town.things[i].weight;
+                }
+            }
+        }
+
+        /** To be asked behind leftSide: by then the row holds what each set weighs. */
         int difference(int set, int left) {
             return Math.abs(row[set] - 2 * row[left]);
         }

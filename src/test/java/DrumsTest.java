@@ -59,6 +59,9 @@ public final class DrumsTest {
         due.is("30: drums(1, 3)", x.drums(1, 3), Due.NONE);
         due.is("30: drums(1, 4)", x.drums(1, 4), 1);
         due.is("30: drums(33, 999)", x.drums(33, 999), 1);
+        both(due, x, 63, 13, 0);
+        both(due, x, 62, 6, 2);
+        due.is("30: drums(63, 10) behind pack", x.drums(63, 10), 2);
         RollTown y = with(99, 99, 99, 99, 99, 99, 99, 99, 99, 99);
         due.is("30: drums(1023, 99)", y.drums(1023, 99), 10);
         due.is("30: drums(1023, 197)", y.drums(1023, 197), 10);

@@ -82,10 +82,10 @@ public final class ImagesTest {
         for (int what = 1; what < 4; what++) {
             x.change(0, what, 7);
         }
-        x.put(1, 1);
+        x.put(1, 2);
         x.go(0);
         x.minutes(1);
-        x.put(0, 2);
+        due.is("49: damage ahead of it", x.count(2), 2);
         x.go(0);
         x.undo();
         due.is("49: none is there", x.count(1), 0);

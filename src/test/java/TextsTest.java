@@ -9,6 +9,7 @@ public final class TextsTest {
         shut(due);
         things(due);
         tokens(due);
+        fullTapes(due);
         faults(due);
         faultsChangeNothing(due);
         elevenThings(due);
@@ -112,6 +113,20 @@ public final class TextsTest {
         due.is("40: a shorter one without", Due.text(x, "box"), 1);
         due.is("40: a longer one with blanks", Due.text(x, "ring    "), 1);
         due.is("40: a shorter one that ends too early", Due.text(x, "sand"), -1 - 4);
+    }
+
+    private static void fullTapes(Due due) {
+        fault(due, ";".repeat(120), 0);
+        fault(due, "-".repeat(120), 0);
+        fault(due, " ".repeat(120), 120);
+        fault(due, "a".repeat(120), 0);
+        fault(due, "sand3;".repeat(20), 120);
+        fault(due, "sand " + "9".repeat(115), 5);
+        RollTown x = new RollTown();
+        due.is("40: 120 bytes", Due.text(x, "sand3;".repeat(19) + "sand30"), 20);
+        due.is("40: ground of THE FOOT", x.ground(30, 0), 1);
+        due.is("40: many naughts", Due.text(x, "sand " + "0".repeat(114) + "9"), 1);
+        due.is("40: ground of 9", x.ground(9, 0), 1);
     }
 
     /** Each text with the place of its fault. */
