@@ -380,10 +380,10 @@ public final class RollTown {
     }
 
     public int behind(int one, int other) {
-        if (!isThing(one) || !isThing(other)) {
+        if (!isThing(one) || !isThing(other) || one == other) {
             return refuse(BEYOND);
         }
-        if (!standTogether(one, other) || isTooLateToWait()) {
+        if (!standTogether(now.things[one], now.things[other]) || isTooLateToWait()) {
             return refuse(STATE);
         }
         later.become(now);
@@ -733,10 +733,8 @@ public final class RollTown {
         return now.minute > LAST_MINUTE - LONGEST - LONGEST_WAIT;
     }
 
-    private boolean standTogether(int one, int other) {
-        Thing a = now.things[one];
-        Thing b = now.things[other];
-        return one != other && a.canBeLetGo() && b.canBeLetGo() && a.cell == b.cell;
+    private static boolean standTogether(Thing one, Thing other) {
+        return one.canBeLetGo() && other.canBeLetGo() && one.cell == other.cell;
     }
 
     private int lineUpByNumber() {

@@ -139,22 +139,24 @@ public final class DayTest {
 
     private static void behindWrong(Due due) {
         RollTown x = with(3);
-        due.is("26: one and the same", x.behind(1, 1), Due.STATE);
+        due.is("26: one and the same", x.behind(1, 1), Due.BEYOND);
         x.put(1, 1);
         due.is("26: not on one CELL", x.behind(0, 1), Due.STATE);
         x.put(0, 30);
         x.put(1, 30);
         due.is("26: on THE FOOT", x.behind(0, 1), Due.STATE);
+        due.is("26: one and the same on THE FOOT", x.behind(0, 0), Due.BEYOND);
         x.put(0, 0);
         x.put(1, 0);
         x.go(0);
         due.is("26: the first is ROLLING", x.behind(0, 1), Due.STATE);
         due.is("26: the other is ROLLING", x.behind(1, 0), Due.STATE);
+        due.is("26: one and the same ROLLING", x.behind(0, 0), Due.BEYOND);
         due.is("26: behind(3, 0)", x.behind(3, 0), Due.BEYOND);
         due.is("26: behind(0, 3)", x.behind(0, 3), Due.BEYOND);
         due.is("26: behind(-1, -1)", x.behind(-1, -1), Due.BEYOND);
-        due.is("26: status(0)", x.status(0), 3);
-        due.is("26: status(4)", x.status(4), 5);
+        due.is("26: status(0)", x.status(0), 6);
+        due.is("26: status(4)", x.status(4), 4);
     }
 
     private static void come(Due due) {
@@ -184,6 +186,7 @@ public final class DayTest {
         due.is("25: BEYOND first", x.wait(2), Due.BEYOND);
         due.is("26: in MINUTE 9741", x.behind(0, 1), Due.STATE);
         due.is("26: BEYOND first", x.behind(0, 2), Due.BEYOND);
+        due.is("26: BEYOND first, of one and the same", x.behind(1, 1), Due.BEYOND);
         x.minutes(58);
         due.is("27: in MINUTE 9799", x.come(), 2);
         due.is("35: in MINUTE 9799", x.odds(0, 1), 0);

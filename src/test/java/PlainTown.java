@@ -278,9 +278,9 @@ final class PlainTown {
         return no(NONE);
     }
     int behind(int a, int b) {
-        if (!isThing(a) || !isThing(b)) return no(BEYOND);
+        if (!isThing(a) || !isThing(b) || a == b) return no(BEYOND);
         One s = now.all.get(a), t = now.all.get(b);
-        if (a == b || !s.restsAbove() || !t.restsAbove() || s.cell != t.cell || now.minute > 9740) return no(STATE);
+        if (!s.restsAbove() || !t.restsAbove() || s.cell != t.cell || now.minute > 9740) return no(STATE);
         for (int n = 1; n < 60; n++) {
             World w = now.copy();
             for (int k = 0; k < w.all.size(); k++) if (k != a && k != b) w.all.get(k).state = 3;
