@@ -149,6 +149,13 @@ final class DayEdges {
         e.tells("behind(0, 1)", 1);
         e.play("put(3, 0); go(3); put(2, 1)");
         e.tells("behind(0, 1)", 1);
+        for (int inTheWay = 0; inTheWay < 3; inTheWay++) {
+            e.town("thing(0, 10); thing(0, 10); thing(0, 10); put(" + inTheWay + ", 5)");
+            int one = (inTheWay + 1) % 3;
+            int other = (inTheWay + 2) % 3;
+            e.tells("behind(" + one + ", " + other + ")", 1);
+            e.tells("behind(" + other + ", " + one + ")", 1);
+        }
     }
 
     private static void behindBeyond(Edges e) {
@@ -257,6 +264,12 @@ final class DayEdges {
         e.tells("pack(31)", 7);
         weights(e, 1, 3);
         e.tells("pack(3)", 1);
+        weights(e, 4, 4, 3, 3, 3, 3);
+        e.due("drums(63, 10)", 2);
+        e.due("pack(63)", 13);
+        e.due("lean(62)", 2);
+        e.due("drums(63, 9)", 3);
+        e.due("lean(63)", 0);
     }
 
     private static void packBeyond(Edges e) {

@@ -71,8 +71,16 @@ final class ImagesEdges {
         e.tells("count(0)", 7);
         e.due("thing(3, 20)", 1);
         e.tells("of(1, 0)", 3);
-        e.tells("of(1, 2)", 4);
-        e.tells("of(1, 4)", 0);
+        e.town("image(); thing(2, 50); thing(2, 50); change(0, 2, 7); change(0, 3, 7); put(1, 2); put(0, 1); go(0)");
+        e.due("minutes(1)", 2);
+        e.play("go(0)");
+        e.tells("are(1)", 1);
+        e.due("undo()", 0);
+        e.due("thing(1, 20)", 0);
+        int[] asNew = {1, 20, 4, 0, 0, 0, 0, 0, 30};
+        for (int what = 0; what < 9; what++) {
+            e.tells("of(0, " + what + ")", asNew[what]);
+        }
     }
 
     private static void undoStays(Edges e) {

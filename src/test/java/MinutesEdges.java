@@ -224,5 +224,8 @@ final class MinutesEdges {
         e.none("meet()");
         e.play("put(0, 4)");
         e.none("meet()");
+        e.town("thing(0, 10); thing(0, 10); put(0, 6); fall(6, 0); go(0); minutes(1); fall(6, 1); change(0, 2, 2)");
+        e.tells("ahead(200, 0)", 1);
+        e.none("meet()");
     }
 }

@@ -234,6 +234,8 @@ final class RollEdges {
         e.tells("rollsFor(0)", 1);
         e.play("fall(0, 1)");
         e.tells("rollsFor(0)", 2);
+        e.play("change(0, 0, 1)");
+        e.tells("rollsFor(0)", 1);
         e.play("fall(0, 2); ground(0, 1); fall(0, 1); change(0, 0, 3); change(0, 1, 19)");
         e.tells("rollsFor(0)", 9);
         e.tells("of(0, 2)", 4);

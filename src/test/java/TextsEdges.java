@@ -42,6 +42,12 @@ final class TextsEdges {
         e.full("feed(59, 1)");
         e.tells("count(5)", 120);
         e.due("text()", 20);
+        e.fault(";".repeat(120), 0);
+        e.fault("-".repeat(120), 0);
+        e.fault("$".repeat(120), 0);
+        e.fault("a".repeat(120), 0);
+        e.fault("1a".repeat(60), 0);
+        e.fault("sand 3" + "-".repeat(114), 6);
     }
 
     private static void tokensAsLongAsCanBe(Edges e) {
@@ -73,6 +79,9 @@ final class TextsEdges {
         e.fault("sand`3", 4);
         e.fault("z 3", 0);
         e.fault("a 3", 0);
+        e.fault("sandz 3", 0);
+        e.fault("sanda 3", 0);
+        e.fault("asand 3", 0);
     }
 
     private static void numbers(Edges e) {
@@ -227,7 +236,11 @@ final class TextsEdges {
         e.fault("box weight", 10);
         e.fault("box rolls 0", 10);
         e.fault("box rolls 10", 10);
-        e.fault("box rolls;", 9);
+        e.fault("box rolls", 9);
+        e.fault("box rolls;box", 9);
+        e.fault("box lean", 8);
+        e.fault("box lean;box", 8);
+        e.fault("box weight;box", 10);
         e.fault("box lean 10", 9);
         e.fault("box lean -1", 9);
         e.fault("box rolls 3 weight 3", 12);
@@ -262,6 +275,10 @@ final class TextsEdges {
     private static void faultOfAWord(Edges e) {
         e.says(0, "another WORD,");
         e.fault("mud 3", 0);
+        e.fault("hand 3", 0);
+        e.fault("sane 3", 0);
+        e.fault("sad 3", 0);
+        e.fault("san", 0);
         e.fault("to 3", 0);
         e.fault("by 3", 0);
         e.fault("weight 3", 0);

@@ -154,6 +154,8 @@ final class WheelEdges {
         }
         e.town("thing(0, 10)");
         e.due("odds(0, 20)", 0);
+        e.play("fall(0, -9); change(0, 2, 9); ground(1, 3)");
+        e.due("odds(0, 20)", 0);
         e.play("fall(0, 9); ground(1, 3); change(0, 2, 9)");
         e.due("odds(0, 20)", 20);
     }
