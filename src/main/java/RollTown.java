@@ -1191,6 +1191,8 @@ public final class RollTown {
     private static final class Packing {
         /** How many drums, times this, and what lies in the last one: one number for each set. */
         private static final int PER_DRUM = 1000;
+        /** No more drums are needed than there are things. */
+        private static final int MORE_THAN_NEEDED = (MOST_THINGS + 1) * PER_DRUM;
         private final int[] row = new int[SETS];
 
         int leftSide(Town town, int set) {
@@ -1232,7 +1234,7 @@ public final class RollTown {
         }
 
         private int fewestFor(Town town, int packed, int most) {
-            int best = Integer.MAX_VALUE;
+            int best = MORE_THAN_NEEDED;
             for (int i = 0; i < town.size; i++) {
                 if (has(packed, i)) {
                     int before = row[packed ^ 1 << i];

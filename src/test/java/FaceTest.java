@@ -20,6 +20,9 @@ public final class FaceTest {
         + " ahead2 meet0 ends1 takes1 speed1 seen1 sand2 rollsFor1 matters1 kindFor1 wait1 behind2 come0 pack1 lean1"
         + " drums2 waits0 least0 order1 wheel1 odds2 worst0 seed1 feed2 wipe0 text0 hold2 as2 sheet3 write3 copy5 load2"
         + " judge2 image0 undo0 tear0 count1 status1";
+    /** All that the source has of the library (rule 4 lists functions, and no constants such as Integer's MAX_VALUE). */
+    private static final Set<String> LIBRARY = Set.of(
+        "Integer.bitCount(", "Math.abs(", "Math.max(", "Math.min(", "System.arraycopy(", "word.length(", "word.charAt(");
     private static final String FORBIDDEN = "\\b(throw|try|catch|synchronized|assert|import|package|yield|Exception"
         + "|Object|hashCode|toString|System\\.(?!arraycopy))\\b|->|::";
 
@@ -95,6 +98,10 @@ public final class FaceTest {
         String code = source.replaceAll("(?s)/\\*.*?\\*/", "").replaceAll("//[^\n]*", "").replaceAll("\"[^\"\n]*\"", "\"\"");
         Matcher found = Pattern.compile(FORBIDDEN).matcher(code);
         due.same("rules 4, 6: words that the source has not", found.find() ? found.group() : "", "");
+        Matcher used = Pattern.compile("\\b(?:[A-Z]\\w*[a-z]\\w*|java|word)\\.\\w+\\(?").matcher(code);
+        while (used.find()) {
+            due.is("rule 4: " + used.group(), LIBRARY.contains(used.group()) ? 1 : 0, 1);
+        }
         int made = code.split("\\bnew\\b", -1).length;
         int inMethods = code.split("(?m)^ {8,}+(?!things\\[i\\]|sheets\\[s\\]|(private )?final ).*\\bnew\\b", -1).length;
         due.is("rule 12: objects are made at all", made > 1 ? 1 : 0, 1);
